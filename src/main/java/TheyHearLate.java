@@ -883,15 +883,13 @@ public final class TheyHearLate {
         }
 
         int deed(int person) {
-            return has(person) ? putTo(reckoned(doing[person]), MOST_DONE) : 0;
+            int i = has(person) ? doing[person] : NONE;
+            return i < 0 || i >= MOST_RULES ? 0 : putTo(formulas[i].value(seen), MOST_DONE);
         }
 
         int speech(int person) {
-            return putTo(reckoned(2 * person + 1), MOST_SAID);
-        }
-
-        private int reckoned(int i) {
-            return i >= 0 && i < MOST_RULES ? formulas[i].value(seen) : 0;
+            int i = 2 * person + 1;
+            return i < 0 || i >= MOST_RULES ? 0 : putTo(formulas[i].value(seen), MOST_SAID);
         }
 
         void pass(Course course, int n) {

@@ -108,6 +108,9 @@ public final class TwoTest {
         Check.pays(x, "(a=0&b=0)+(a=1&b=1)*5");
         check.due("they stand at 0", x.gap(), 45 - 9);
         check.row("they stand at 0", x, 45);
+        Check.pays(x, "(a=1&b=1)*5");
+        check.due("as before, if as good, from 0, 0", x.gap(), 45);
+        check.row("as before, if as good, from 0, 0", x, 45);
         Check.pays(x, "(a=j)+(b=i)");
         check.due("each wants to see the other end", x.gap(), 0);
         check.row("each wants to see the other end", x, 18);
