@@ -69,4 +69,29 @@ final class Check {
         tell(x, text);
         return x.pays();
     }
+
+    /** What an EXPRESSION of numbers alone comes to: the sum of two(), if it is THE PAY and weighs once. */
+    void value(String text, long want) {
+        TheyHearLate x = new TheyHearLate();
+        due("pays of " + text, pays(x, text), 0);
+        for (int i = 1; i < 9; i++) {
+            x.weight(i / 3, i % 3, 0);
+        }
+        due("value of " + text, x.two(), want);
+    }
+
+    /** A RULE that can't be told answers so, empties THE TEXT, and leaves what was told before. */
+    void fault(String text, int want) {
+        TheyHearLate x = new TheyHearLate();
+        x.person(0, 0, 0);
+        rule(x, 1, "77");
+        due("rule of " + text, rule(x, 1, text), want);
+        due("signs of THE TEXT behind " + text, x.count(5), 0);
+        due("rules told behind " + text, x.count(2), 2);
+        due("the rule ahead of " + text + " stays", x.does(0, 1), 77);
+    }
+
+    static String times(String text, int n) {
+        return text.repeat(n);
+    }
 }

@@ -126,7 +126,7 @@ public final class ExpressionTest {
         String some = "ijab019!--()((+*/<=>&|";
         TheyHearLate x = new TheyHearLate();
         for (int round = 0; round < 20000; round++) {
-            if (round % 100 == 0) {
+            if (round % 30 == 0) {
                 x = new TheyHearLate();
             }
             StringBuilder text = new StringBuilder();

@@ -269,8 +269,8 @@ public final class SteeringTest {
 
     private static void pullsAsByHand() {
         Random random = new Random(26);
-        TheyHearLate x = new TheyHearLate();
         for (int i = 0; i < 200; i++) {
+            TheyHearLate x = new TheyHearLate();
             int late = random.nextInt(i % 2 == 0 ? 21 : 4);
             int k = 1 + random.nextInt(i % 3 == 0 ? 20 : 5);
             int from = 1 + random.nextInt(999);
@@ -311,6 +311,7 @@ public final class SteeringTest {
     private static void gentlest() {
         TheyHearLate x = new TheyHearLate();
         for (int late = 0; late <= 20; late++) {
+            x = new TheyHearLate();
             for (int from = 1; from <= 999; from += 166) {
                 int want = -2;
                 int soonest = 200;

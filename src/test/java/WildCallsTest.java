@@ -7,6 +7,7 @@ import java.util.List;
 import java.util.NoSuchElementException;
 import java.util.Random;
 import java.util.Set;
+import java.util.function.Consumer;
 
 /** Terms 2: whatever is asked, nothing is thrown but what the document names, and refused calls change nothing. */
 public final class WildCallsTest {
@@ -16,7 +17,7 @@ public final class WildCallsTest {
     private static final Set<String> MAY_BE_BELOW_0 = Set.of("beam", "seed", "two", "gap", "count", "place", "was", "does",
             "go", "row");
 
-    public static void main(String[] args) throws IllegalAccessException {
+    public static void main(String[] args) {
         List<Method> face = new ArrayList<>();
         for (Method method : TheyHearLate.class.getDeclaredMethods()) {
             if (Modifier.isPublic(method.getModifiers())) {
@@ -25,7 +26,7 @@ public final class WildCallsTest {
         }
         face.sort(Comparator.comparing(Method::getName));
         check.due("calls of the face", face.size(), 46);
-        for (int round = 0; round < 300; round++) {
+        for (int round = 0; round < 400; round++) {
             new Round(new Random(round), face).play();
         }
         check.end();
@@ -36,6 +37,9 @@ public final class WildCallsTest {
         final List<Method> face;
         final TheyHearLate all = new TheyHearLate();
         final TheyHearLate taken = new TheyHearLate();
+        /** What was asked of either, to ask the same of others: one alone is not used for all. */
+        final List<Consumer<TheyHearLate>> ofAll = new ArrayList<>();
+        final List<Consumer<TheyHearLate>> ofTaken = new ArrayList<>();
         final boolean tame;
 
         Round(Random random, List<Method> face) {
@@ -44,34 +48,53 @@ public final class WildCallsTest {
             this.tame = random.nextInt(4) > 0;
         }
 
-        void play() throws IllegalAccessException {
-            for (int i = 0; i < 300; i++) {
-                if (i % 7 == 0) {
+        void play() {
+            for (int i = 0; i < 180; i++) {
+                if (i % 9 == 0) {
                     tellRule();
                 }
                 Method method = face.get(random.nextInt(face.size()));
                 Object[] with = with(method);
                 Object answer = answer(all, method, with);
+                ofAll.add(x -> answer(x, method, with));
                 if (isRefused(method, with, answer)) {
                     if (method.getName().equals("rule") || method.getName().equals("pays")) {
                         taken.end(0);
+                        ofTaken.add(x -> x.end(0));
                     }
                 } else {
                     Object same = answer(taken, method, with);
+                    ofTaken.add(x -> answer(x, method, with));
                     check.due(method.getName() + " without what was refused", answer.equals(same), true);
                 }
             }
-            look(0);
+            List<Long> want = World.allOf(() -> made(ofTaken));
+            List<Long> got = World.allOf(() -> made(ofAll));
+            check.due("all answers without what was refused", got.equals(want), true);
+        }
+
+        private static TheyHearLate made(List<Consumer<TheyHearLate>> calls) {
+            TheyHearLate x = new TheyHearLate();
+            for (Consumer<TheyHearLate> call : calls) {
+                call.accept(x);
+            }
+            return x;
         }
 
         private void tellRule() {
             String[] rules = {"-x/5", "h+1", "t*99", "a-v", "y-x", "x*x*x/(t-5)", "-999*999*999*t/-1"};
             String rule = rules[random.nextInt(rules.length)];
             int i = random.nextInt(12);
-            all.end(0);
-            taken.end(0);
-            check.due("rule", Check.rule(all, i, rule), 0);
-            check.due("rule", Check.rule(taken, i, rule), 0);
+            for (TheyHearLate x : List.of(all, taken)) {
+                x.end(0);
+                check.due("rule", Check.rule(x, i, rule), 0);
+            }
+            Consumer<TheyHearLate> call = x -> {
+                x.end(0);
+                Check.rule(x, i, rule);
+            };
+            ofAll.add(call);
+            ofTaken.add(call);
         }
 
         private Object[] with(Method method) {
@@ -86,9 +109,11 @@ public final class WildCallsTest {
             return with;
         }
 
-        private Object answer(TheyHearLate x, Method method, Object[] with) throws IllegalAccessException {
+        private Object answer(TheyHearLate x, Method method, Object[] with) {
             try {
                 return method.invoke(x, with);
+            } catch (IllegalAccessException e) {
+                throw new IllegalStateException(e);
             } catch (InvocationTargetException e) {
                 boolean named = e.getCause().getClass() == NoSuchElementException.class;
                 boolean declared = method.getExceptionTypes().length == 1;
@@ -106,47 +131,6 @@ public final class WildCallsTest {
                 return answer.equals(-1) || answer.equals(-2);
             }
             return !MAY_BE_BELOW_0.contains(name) && answer instanceof Integer && (Integer) answer < 0;
-        }
-
-        /** All that can be asked, of both. */
-        private void look(int from) {
-            for (int what = 0; what <= 5; what++) {
-                check.due("count(" + what + ")", taken.count(what), all.count(what));
-            }
-            for (int i = 0; i < all.count(4); i++) {
-                check.due("row", taken.row(i), all.row(i));
-            }
-            for (int m = 0; m <= all.count(1); m++) {
-                check.due("place", taken.place(m), all.place(m));
-                for (int i = 0; i < all.count(0) && m < all.count(1); i++) {
-                    for (int what = 0; what < 4; what++) {
-                        check.due("was", taken.was(i, m, what), all.was(i, m, what));
-                    }
-                }
-            }
-            for (int i = 0; i < all.count(0); i++) {
-                check.due("does", taken.does(i, 0), all.does(i, 0));
-                check.due("says", taken.does(i, 1), all.does(i, 1));
-                for (int j = 0; j < all.count(0); j++) {
-                    check.due("by", taken.by(i, j, 50), all.by(i, j, 50));
-                    check.due("says", taken.says(i, j), all.says(i, j));
-                    check.due("soon", taken.soon(i, j), all.soon(i, j));
-                    check.due("chance", taken.chance(i, j, 9), all.chance(i, j, 9));
-                    check.due("sure", taken.sure(i, j, 40), all.sure(i, j, 40));
-                    check.due("row", taken.count(4) == 0 ? 0 : taken.row(0), all.count(4) == 0 ? 0 : all.row(0));
-                }
-            }
-            check.due("would", taken.would(20, 7), all.would(20, 7));
-            check.due("two", taken.two(), all.two());
-            check.due("crossed", taken.crossed(), all.crossed());
-            check.due("start", taken.begin() ? taken.place(0) : 0, all.begin() ? all.place(0) : 0);
-            check.due("down", taken.beam(2, 0), all.beam(2, 0));
-            check.due("up", taken.beam(3, 0), all.beam(3, 0));
-            check.due("R", taken.seed(0), all.seed(0));
-            if (from < 3) {
-                check.due("again", taken.again(from), all.again(from));
-                look(from + 1);
-            }
         }
     }
 }
