@@ -7,6 +7,7 @@ public final class AskedBoundsTest {
     public static void main(String[] args) {
         saysByNobody();
         saysByAsManyAsThereAre();
+        saysByTheFirstAndTheLast();
         saysOfEqualOnesTheFewest();
         saysOfEqualOnesTheLeastRow();
         saysNever();
@@ -86,6 +87,20 @@ public final class AskedBoundsTest {
         says(quick, 0, 3, 9, 5, 1, 4, 2);
         quick.set(3, 0, 20);
         says(quick, 0, 3, 29, 5, 1, 4, 2);
+    }
+
+    /** Promise 34: has passed on to it by others: by the first of all, by the last, by none behind some. */
+    private static void saysByTheFirstAndTheLast() {
+        TheyHearLate x = people(4, 1, 5, 2, 6, 3, 1, 1, 1, 1, 7, 4);
+        near(x, 1, 0, 0, 2);
+        says(x, 1, 2, 4 + 1 + 6, 0);
+        says(x, 2, 1, 4 + 1 + 5, 0);
+        near(x, 2, 5, 5, 3);
+        says(x, 1, 3, 4 + 1 + 6 + 3 + 7 + 4 + 1, 0, 2, 5);
+        says(x, 3, 1, 7 + 4 + 6 + 3 + 4 + 1 + 5, 5, 2, 0);
+        says(x, 5, 2, 6);
+        says(x, 3, 2, 7 + 4 + 6, 5);
+        says(x, 0, 1, 5);
     }
 
     /** Promise 34: of equal ones the fewest. */
@@ -320,6 +335,8 @@ public final class AskedBoundsTest {
 
     /** Promise 37: NONE: fewer than two. */
     private static void crierOfFewerThanTwo() {
+        new World(check, TheyHearLate::new).refuses("crier() of nobody", -1, TheyHearLate::crier);
+        new World(check, () -> people(3, 1)).refuses("crier() of one", -1, TheyHearLate::crier);
         TheyHearLate x = new TheyHearLate();
         x.two();
         check.due("nobody", x.crier(), -1);

@@ -9,7 +9,8 @@ public final class EachRuleBoundsTest {
         rulesOfEqualOnesTheFirst();
         rulesNoneTold();
         rulesOfOthers();
-        rulesBehindOneAnother();
+        rulesByR1();
+        rulesAndPairChangeNothing();
         pairOfAllThatAreTold();
         pairOfEqualOnesTheLeast();
         pairNoneTold();
@@ -120,7 +121,34 @@ public final class EachRuleBoundsTest {
         check.due("n 1", world.make().rules(0, 0, 11, 1) >= 0, true);
     }
 
-    private static void rulesBehindOneAnother() {
+    /** Promises 19 and 20: with which would() of n, R 1, is the least COST: R 1 draws 8, R 0 draws 0, R 2 draws 7. */
+    private static void rulesByR1() {
+        TheyHearLate x = people(2);
+        Check.rule(x, 0, "0");
+        Check.rule(x, 2, "-1");
+        x.beam(3, 2);
+        x.seed(0);
+        check.due("no wind of R 0", x.would(1, 0), 1);
+        check.due("wind up of R 1", x.would(1, 1), 0);
+        check.due("no wind of R 2", x.would(1, 2), 1);
+        check.due("-1 ahead of wind up", x.rules(0, 0, 11, 1), 0);
+        check.row("-1 ahead of wind up", x, 0);
+        check.due("0 and -1", x.pair(0, 1, 1), 0);
+        check.row("0 and -1", x, 0, 2);
+        x.beam(3, 1);
+        check.due("no wind of R 1", x.rules(1, 0, 11, 1), 0);
+        check.due("no wind of R 1", x.pair(0, 1, 1), 0);
+        check.row("no wind of R 1", x, 0, 0);
+        check.due("R stays", x.seed(1), 0);
+    }
+
+    private static void rulesAndPairChangeNothing() {
+        for (int i = 0; i < 5; i++) {
+            int one = i;
+            int other = (i + 1) % 5;
+            world.leavesAllButTheRow("pair(" + one + ", " + other + ", 9)", x -> x.pair(one, other, 9));
+            world.leavesAllButTheRow("rules(" + one + ", 8, 9, 9)", x -> x.rules(one, 8, 9, 9));
+        }
         world.leavesAllButTheRow("rules(0, 0, 11, 199)", x -> x.rules(0, 0, 11, 199));
         world.leavesAllButTheRow("rules(4, 10, 11, 1)", x -> x.rules(4, 10, 11, 1));
         world.leavesAllButTheRow("pair(0, 4, 199)", x -> x.pair(0, 4, 199));

@@ -17,6 +17,7 @@ public final class ExpressionBoundsTest {
         textsOfMoreThanFortySigns();
         textsThatEndTooEarly();
         signsThatCanNotStand();
+        nothingIsLeftOfAFault();
         noSuchRuleIsAskedFirst();
         rulesAre0To11();
         emptyTextIsNoRule();
@@ -45,6 +46,9 @@ public final class ExpressionBoundsTest {
         check.fault("(9999)", -5);
         check.fault("()", -2);
         check.fault("12 3", -3);
+        check.fault("(7)3", -4);
+        check.fault("(12)3", -5);
+        check.fault("(1+2)3", -6);
     }
 
     /** An EXPRESSION in ( ) (at most 5 in one another). */
@@ -100,6 +104,10 @@ public final class ExpressionBoundsTest {
         check.value("1|1&0", 1);
         check.value("0&1|1", 1);
         check.value("(1|1)&0", 0);
+        check.value("(0|7)+2", 3);
+        check.value("2-(0|7)", 1);
+        check.value("(0&7|1)+2", 3);
+        check.value("((7|0)&(0|7))*2", 2);
         check.value("2&2=2", 1);
         check.value("2=2&2", 1);
         check.value("2=(2&2)", 0);
@@ -282,6 +290,23 @@ public final class ExpressionBoundsTest {
             check.due("sign " + c + " behind 1", Check.rule(x, 0, "1" + sign), digit ? 0 : between ? -3 : -2);
             check.due("sign " + c + " behind (x)", Check.rule(x, 0, "(x)" + sign), between ? -5 : -4);
             check.due("sign " + c + " behind x+", Check.rule(x, 0, "x+" + sign), thing ? 0 : ahead ? -4 : -3);
+        }
+    }
+
+    /** A text that can't stand leaves nothing to the next one. */
+    private static void nothingIsLeftOfAFault() {
+        String[] faults = {"1234", "99?", "((((((", "(((((x", "1<2<3", "(1<2<3", "!-!-?", "7*8*9+", "1|2&3=4+5*6/", "(7)3", "9"};
+        for (String fault : faults) {
+            TheyHearLate x = new TheyHearLate();
+            x.person(0, 0, 0);
+            String[] texts = {"t+5", "(((((t+6)))))", "-t-7", "1<2", "8"};
+            int[] says = {5, 6, -7, 1, 8};
+            for (int i = 0; i < texts.length; i++) {
+                Check.rule(x, 1, fault);
+                check.due("rule of " + texts[i] + " behind " + fault, Check.rule(x, 1, texts[i]), 0);
+                check.due("says by " + texts[i] + " behind " + fault, x.does(0, 1), says[i]);
+            }
+            check.due("t)", Check.rule(x, 1, "t)"), -2);
         }
     }
 

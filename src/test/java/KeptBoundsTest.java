@@ -9,6 +9,7 @@ public final class KeptBoundsTest {
         keepUnder0To2();
         keepOfOthers();
         againInFirstAndLastMinute();
+        againOfAllThatWasDone();
         againOfAllThatIsKept();
         againOfNothingKept();
         againWithOneToldSince();
@@ -88,6 +89,47 @@ public final class KeptBoundsTest {
         check.due("place", x.place(199), 204);
         check.due("did", x.was(0, 198, 0), 1);
         check.due("no further", x.go(1), 204);
+    }
+
+    private static long[] allThatWas(TheyHearLate x) {
+        long[] all = new long[4 * 5 * 6];
+        for (int i = 0; i < all.length; i++) {
+            all[i] = x.was(i / 24, i / 4 % 6, i % 4);
+        }
+        return all;
+    }
+
+    private static void sameAll(String call, long[] got, long[] want) {
+        for (int i = 0; i < want.length; i++) {
+            check.due(call + ", was(" + i / 24 + ", " + i / 4 % 6 + ", " + i % 4 + ")", got[i], want[i]);
+        }
+    }
+
+    /** Promises 44, 45: all MINUTES that went by: what one did, said, HEARD, saw in them. */
+    private static void againOfAllThatWasDone() {
+        TheyHearLate x = world.make();
+        long[] first = allThatWas(x);
+        x.keep(1);
+        x.begin();
+        x.beam(0, -70);
+        Check.tell(x, "");
+        for (int i = 0; i < 12; i++) {
+            Check.rule(x, i, String.valueOf(i - 20));
+        }
+        x.go(9);
+        long[] second = allThatWas(x);
+        for (int what = 0; what < 4; what++) {
+            int unlike = 0;
+            for (int i = what; i < first.length; i += 4) {
+                unlike += first[i] != second[i] ? 1 : 0;
+            }
+            check.due("unlike ones of what " + what, unlike > 0, true);
+        }
+        x.keep(2);
+        x.again(1);
+        sameAll("again(1)", allThatWas(x), first);
+        x.again(2);
+        sameAll("again(2)", allThatWas(x), second);
     }
 
     /** Promises 44, 45: all MINUTES that went by, START and R; they are as they were kept. */

@@ -12,6 +12,7 @@ public final class TwoBoundsTest {
         paysOfFortySigns();
         paysThatCanNotStand();
         twoOfEqualOnesTheLeastRow();
+        twoOfAnyRule();
         twoOfNoWeight();
         twoBelow0();
         twoBeyondInts();
@@ -148,6 +149,19 @@ public final class TwoBoundsTest {
         world.leavesAllButTheRow("two()", TheyHearLate::two);
     }
 
+    /** Promise 31: what each does by what it sees: each of all 27 rules can be the best, of the one and of the other. */
+    private static void twoOfAnyRule() {
+        for (int rule = 0; rule < 27; rule++) {
+            int[] r = {rule / 9, rule / 3 % 3, rule % 3};
+            TheyHearLate x = paying("(i=0&a=" + r[0] + ")|(i=1&a=" + r[1] + ")|(i=2&a=" + r[2] + ")");
+            check.due("best of the one", x.two(), 9);
+            check.row("best of the one", x, r[0], r[1], r[2], 0, 0, 0);
+            x = paying("(j=0&b=" + r[0] + ")|(j=1&b=" + r[1] + ")|(j=2&b=" + r[2] + ")");
+            check.due("best of the other one", x.two(), 9);
+            check.row("best of the other one", x, 0, 0, 0, r[0], r[1], r[2]);
+        }
+    }
+
     private static void twoOfNoWeight() {
         TheyHearLate x = paying("a+b");
         for (int i = 0; i < 9; i++) {
@@ -268,9 +282,9 @@ public final class TwoBoundsTest {
 
     /** Promise 33: by how much two() is more than the sum of a stand from rules 0, 0. */
     private static void gapFromRules0() {
-        String[] pays = {"7", "a*b", "a+b", "(a=0&b=0)+(a=1&b=1)*5", "-7", "a*b-9"};
-        long[] gaps = {0, 36, 0, 36, 0, 36};
-        long[] both = {63, 36, 36, 45, -63, -45};
+        String[] pays = {"7", "a*b", "a+b", "(a=0&b=0)+(a=1&b=1)*5", "-7", "a*b-9", "(a=0&b=2)*9", "(a=2&b=0)*9"};
+        long[] gaps = {0, 36, 0, 36, 0, 36, 0, 0};
+        long[] both = {63, 36, 36, 45, -63, -45, 81, 81};
         for (int i = 0; i < pays.length; i++) {
             TheyHearLate x = paying(pays[i]);
             check.due("gap of " + pays[i], x.gap(), gaps[i]);
@@ -292,6 +306,17 @@ public final class TwoBoundsTest {
         x.weight(1, 2, 99);
         check.due("gap", x.gap() >= 0, true);
         check.row("all of 8 and 98 more", x, 9 - 1 + 98);
+        for (int done = 0; done < 9; done++) {
+            x = paying("(a=" + done / 3 + "&b=" + done % 3 + ")*5");
+            x.gap();
+            check.row("one thing for both alone", x, 45);
+        }
+        x = paying("-i");
+        check.due("gap", x.gap(), 0);
+        check.row("what both saw, not what others did", x, -9);
+        x = paying("-j");
+        check.due("gap", x.gap(), 0);
+        check.row("what both saw, not what others did", x, -9);
         x = paying("-(a=0)-(b=0)-(i=j)");
         check.due("gap", x.gap(), 0);
         check.row("below 0", x, -3);
