@@ -92,7 +92,7 @@ public final class KeptBoundsTest {
     }
 
     private static long[] allThatWas(TheyHearLate x) {
-        long[] all = new long[4 * 5 * 6];
+        long[] all = new long[4 * 3 * 6];
         for (int i = 0; i < all.length; i++) {
             all[i] = x.was(i / 24, i / 4 % 6, i % 4);
         }
